@@ -147,7 +147,12 @@ public final class RegisterMachine {
         }
         int done = 0;
         while (done < n && activity.state == GOES_ON) {
-            doStep();
+            activity.steps++;
+            if (activity.isInRegisters()) {
+                registerRunner.payStep();
+            } else {
+                stackRunner.perform();
+            }
             doWhatIsNoStep();
             done++;
         }
@@ -206,20 +211,15 @@ public final class RegisterMachine {
         }
     }
 
-    private void doStep() {
-        activity.steps++;
-        if (activity.isInRegisters()) {
-            registerRunner.payStep();
-        } else {
-            stackRunner.perform();
-        }
-    }
-
     private void doWhatIsNoStep() {
         boolean goes = true;
         for (int i = 0; i < MOST_BETWEEN_STEPS && goes && activity.state == GOES_ON; i++) {
             if (activity.isFresh) {
-                countFreshFrame();
+                int function = activity.currentFunction();
+                if (isDueWhenCounted(function)) {
+                    compiler.compile(function);
+                }
+                activity.settleFrame(registerCode.start[function]);
             }
             if (activity.isInRegisters()) {
                 goes = registerRunner.performFree();
@@ -229,16 +229,9 @@ public final class RegisterMachine {
         }
     }
 
-    private void countFreshFrame() {
-        int function = activity.currentFunction();
-        activity.isFresh = false;
+    private boolean isDueWhenCounted(int function) {
         program.counted[function]++;
-        if (tier > 0 && program.counted[function] >= tier && registerCode.start[function] == NONE) {
-            compiler.compile(function);
-        }
-        if (registerCode.start[function] != NONE) {
-            activity.useRegisters(registerCode.start[function]);
-        }
+        return tier > 0 && program.counted[function] >= tier && registerCode.start[function] == NONE;
     }
 
     private static boolean isWithin(int number, int most) {
@@ -275,10 +268,6 @@ public final class RegisterMachine {
             return parameters[function] + locals[function];
         }
 
-        int heightOf(int begin) {
-            return begin == NONE ? 0 : height[begin];
-        }
-
         int resultsOf(int begin, int function) {
             return begin == NONE ? results[function] : b[begin];
         }
@@ -288,7 +277,10 @@ public final class RegisterMachine {
         }
 
         int wantedBy(int begin, int function) {
-            return isLoop(begin) ? a[begin] : resultsOf(begin, function);
+            if (begin == NONE) {
+                return results[function];
+            }
+            return operation[begin] == LOOP ? a[begin] : b[begin];
         }
 
         long constant(int at) {
@@ -526,7 +518,8 @@ public final class RegisterMachine {
         }
 
         private int height() {
-            return program.heightOf(begins[labels - 1]);
+            int begin = begins[labels - 1];
+            return begin == NONE ? 0 : program.height[begin];
         }
 
         private boolean has(int count) {
@@ -746,6 +739,7 @@ public final class RegisterMachine {
             enter(called, arguments, 0);
         }
 
+        /** Makes a frame; its parameters begin at a place of the source, which is the values but for the first. */
         void enter(int called, long[] source, int from) {
             int locals = program.allLocals(called);
             int parameters = program.parameters[called];
@@ -753,6 +747,9 @@ public final class RegisterMachine {
             if (frames >= MOST_FRAMES || asked > MOST_VALUES - used) {
                 state = EXHAUSTED;
                 return;
+            }
+            if (frames > 0) {
+                top[frames - 1] = from;
             }
             for (int i = 0; i < locals; i++) {
                 boolean isGiven = i < parameters && from + i >= 0 && from + i < source.length;
@@ -797,12 +794,19 @@ public final class RegisterMachine {
             return frames > 0 ? function[frames - 1] : 0;
         }
 
+        /** Where the current frame goes on in code of a size; NONE when there is no such place. */
+        int nextWithin(int size) {
+            return frames > 0 && next[frames - 1] >= 0 && next[frames - 1] < size ? next[frames - 1] : NONE;
+        }
+
         boolean isInRegisters() {
             return frames > 0 && inRegisters[frames - 1];
         }
 
-        void useRegisters(int start) {
-            if (frames > 0) {
+        /** The new frame runs code for registers from its start on, if there is any. */
+        void settleFrame(int start) {
+            isFresh = false;
+            if (frames > 0 && start != NONE) {
                 inRegisters[frames - 1] = true;
                 next[frames - 1] = start;
             }
@@ -820,8 +824,11 @@ public final class RegisterMachine {
 
         /** Downwards only, so that going upwards over them never reads what was written. */
         void move(int from, int to, int count) {
+            if (to < 0 || from < to || from + count > MOST_VALUES) {
+                return;
+            }
             for (int i = 0; i < count; i++) {
-                setValue(to + i, value(from + i));
+                values[to + i] = values[from + i];
             }
         }
     }
@@ -839,24 +846,35 @@ public final class RegisterMachine {
         }
 
         boolean performFree() {
-            int frame = activity.frames - 1;
-            if (frame < 0) {
+            int at = activity.nextWithin(program.size);
+            if (at == NONE) {
                 return false;
             }
-            int operation = program.operation[activity.next[frame]];
-            boolean isFree = operation == BLOCK || operation == LOOP || operation == ELSE || operation == END;
-            if (isFree) {
-                perform();
+            int frame = activity.frames - 1;
+            switch (program.operation[at]) {
+                case BLOCK: case LOOP:
+                    activity.next[frame] = at + 1;
+                    return true;
+                case ELSE:
+                    activity.next[frame] = program.link[at] + 1;
+                    return true;
+                case END:
+                    activity.next[frame] = at + 1;
+                    if (program.link[at] == NONE) {
+                        giveBack(frame);
+                    }
+                    return true;
+                default:
+                    return false;
             }
-            return isFree;
         }
 
         void perform() {
-            int frame = activity.frames - 1;
-            if (frame < 0) {
+            int at = activity.nextWithin(program.size);
+            if (at == NONE) {
                 return;
             }
-            int at = activity.next[frame];
+            int frame = activity.frames - 1;
             int operation = program.operation[at];
             activity.next[frame] = at + 1;
             if (operation >= FIRST_OPERATOR) {
@@ -927,8 +945,6 @@ public final class RegisterMachine {
             switch (operation) {
                 case TRAP: activity.fail(TRAP_REACHED); break;
                 case IF: beginIf(frame, at); break;
-                case ELSE: activity.next[frame] = program.link[at] + 1; break;
-                case END: end(frame, at); break;
                 case BRANCH: branch(frame, at); break;
                 case BRANCH_IF: if ((int) pop(frame) != 0) { branch(frame, at); } break;
                 case TABLE: branch(frame, at + 1 + (int) Math.min(pop(frame) & LOW_BITS, program.a[at])); break;
@@ -943,12 +959,6 @@ public final class RegisterMachine {
             if ((int) pop(frame) == 0) {
                 int otherwise = program.other[at];
                 activity.next[frame] = (otherwise == NONE ? program.link[at] : otherwise) + 1;
-            }
-        }
-
-        private void end(int frame, int at) {
-            if (program.link[at] == NONE) {
-                giveBack(frame);
             }
         }
 
@@ -971,8 +981,7 @@ public final class RegisterMachine {
         }
 
         private void invoke(int frame, int called) {
-            activity.top[frame] -= program.parameters[called];
-            activity.enter(called, activity.values, activity.top[frame]);
+            activity.enter(called, activity.values, activity.top[frame] - program.parameters[called]);
         }
 
         private void invokeEntry(int frame, int at) {
@@ -1214,7 +1223,8 @@ public final class RegisterMachine {
             }
             for (int i = 0; i < operands; i++) {
                 if (where[i] == local) {
-                    fillSlot(i);
+                    emit(MOVE, slots + i, local, 0, 0);
+                    where[i] = slots + i;
                 }
             }
             emit(MOVE, local, from, 0, 0);
@@ -1317,14 +1327,10 @@ public final class RegisterMachine {
 
         private void fillSlots(int from) {
             for (int i = Math.max(from, 0); i < operands; i++) {
-                fillSlot(i);
-            }
-        }
-
-        private void fillSlot(int operand) {
-            if (where[operand] != slots + operand) {
-                emit(MOVE, slots + operand, where[operand], 0, 0);
-                where[operand] = slots + operand;
+                if (where[i] != slots + i) {
+                    emit(MOVE, slots + i, where[i], 0, 0);
+                    where[i] = slots + i;
+                }
             }
         }
 
@@ -1336,8 +1342,9 @@ public final class RegisterMachine {
         }
 
         private void putSlots(int count) {
-            for (int i = 0; i < count; i++) {
-                push(slots + operands);
+            for (int i = 0; i < count && operands < MOST_VALUES; i++) {
+                where[operands] = slots + operands;
+                operands++;
             }
         }
 
@@ -1365,29 +1372,28 @@ public final class RegisterMachine {
         }
 
         void payStep() {
-            int frame = activity.frames - 1;
-            if (frame < 0) {
+            int at = activity.nextWithin(code.size);
+            if (at == NONE) {
                 return;
             }
             activity.paid++;
-            if (activity.paid >= code.weight[activity.next[frame]]) {
+            if (activity.paid >= code.weight[at]) {
                 activity.paid = 0;
-                perform();
+                perform(at);
             }
         }
 
         boolean performFree() {
-            int frame = activity.frames - 1;
-            boolean isFree = frame >= 0 && code.weight[activity.next[frame]] == 0;
+            int at = activity.nextWithin(code.size);
+            boolean isFree = at != NONE && code.weight[at] == 0;
             if (isFree) {
-                perform();
+                perform(at);
             }
             return isFree;
         }
 
-        private void perform() {
+        private void perform(int at) {
             int frame = activity.frames - 1;
-            int at = activity.next[frame];
             int operation = code.operation[at];
             activity.next[frame] = at + 1;
             if (operation == MOVE) {
@@ -1458,7 +1464,7 @@ public final class RegisterMachine {
                 case BRANCH_IF: if (isZero(frame, at)) { activity.next[frame] = at + 2; } break;
                 case TABLE: activity.next[frame] = tableEntry(frame, at); break;
                 case RETURN: activity.leave(activity.base[frame] + code.x[at]); break;
-                case CALL: invoke(frame, code.y[at], at); break;
+                case CALL: activity.enter(code.y[at], activity.values, activity.base[frame] + code.x[at]); break;
                 case CALL_ENTRY: invokeEntry(frame, at); break;
                 default: break;
             }
@@ -1478,17 +1484,12 @@ public final class RegisterMachine {
             return at + 1 + (int) Math.min(read(frame, code.x[at]) & LOW_BITS, code.y[at]);
         }
 
-        private void invoke(int frame, int called, int at) {
-            activity.top[frame] = activity.base[frame] + code.x[at];
-            activity.enter(called, activity.values, activity.top[frame]);
-        }
-
         private void invokeEntry(int frame, int at) {
             int found = world.find(read(frame, code.y[at]), code.to[at], code.z[at], program);
             if (found < 0) {
                 activity.fail(-found);
             } else {
-                invoke(frame, found, at);
+                activity.enter(found, activity.values, activity.base[frame] + code.x[at]);
             }
         }
 
