@@ -423,10 +423,9 @@ public final class RegisterMachine {
                 return false;
             }
             int at = program.size;
-            operands = height();
-            put(program.resultsOf(begin, program.written));
             program.link[at] = begin;
             if (begin == NONE) {
+                // No label is left to have the results: what a dead one only asked for was never an operand.
                 program.last[program.written] = at;
                 stop();
                 return true;
@@ -435,7 +434,9 @@ public final class RegisterMachine {
             if (program.other[begin] != NONE) {
                 program.link[program.other[begin]] = at;
             }
+            operands = height();
             labels--;
+            put(program.b[begin]);
             return true;
         }
 

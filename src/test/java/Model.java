@@ -238,7 +238,6 @@ final class Model {
         }
         l.own = 0;
         if (labels.size() == 1) {
-            change(0, l.results);
             written = null;
             return true;
         }

@@ -52,6 +52,7 @@ public final class PromiseTests {
             tests.indirectCalls(tier);
             tests.exhaustsByFrames(tier);
             tests.exhaustsByValues(tier);
+            tests.deadEndsAskForNothing(tier);
             tests.keepsWhatALocalWas(tier);
         }
         tests.states();
@@ -60,6 +61,7 @@ public final class PromiseTests {
         tests.results();
         tests.globalsAndMemory();
         tests.looks();
+        tests.looksAtDeadLabels();
         tests.check.finish();
     }
 
@@ -872,8 +874,57 @@ public final class PromiseTests {
         }
         check.same("no such", m.look(1, 0), -1);
         check.same("no such", m.look(-1, 0), -1);
-        m.function(0, 3, 0);
-        write("results of a dead end", TRAP, 0, 0, END, 0, 0);
-        check.same("END puts them", m.look(1, 3), 3);
+    }
+
+    private void looksAt(String what, int results, int due, int... numbers) {
+        int function = m.function(0, results, 0);
+        write(what, numbers);
+        check.same(what, m.look(function, 3), due);
+    }
+
+    private void looksAtDeadLabels() {
+        m = new RegisterMachine();
+        looksAt("nothing", 0, 0, END, 0, 0);
+        looksAt("a dead end", 1, 0, TRAP, 0, 0, END, 0, 0);
+        looksAt("eight are missing", 8, 0, TRAP, 0, 0, END, 0, 0);
+        looksAt("seven are missing", 8, 1, TRAP, 0, 0, PUT, 1, 0, END, 0, 0);
+        looksAt("none is missing", 2, 2, TRAP, 0, 0, PUT, 1, 0, PUT, 1, 0, END, 0, 0);
+        looksAt("what was there before", 3, 2, PUT, 1, 0, PUT, 1, 0, TRAP, 0, 0, END, 0, 0);
+        looksAt("behind RETURN", 1, 1, PUT, 1, 0, RETURN, 0, 0, END, 0, 0);
+        looksAt("RETURN asks only", 5, 0, TRAP, 0, 0, RETURN, 0, 0, END, 0, 0);
+        looksAt("BRANCH asks only", 5, 0, TRAP, 0, 0, BRANCH, 0, 0, END, 0, 0);
+        looksAt("BRANCH_IF puts again", 5, 5, TRAP, 0, 0, BRANCH_IF, 0, 0, END, 0, 0);
+        looksAt("ENTRIES ask only", 5, 0, TRAP, 0, 0, TABLE, 0, 0, ENTRY, 0, 0, END, 0, 0);
+        looksAt("FORGET asks only", 5, 0, TRAP, 0, 0, FORGET, 0, 0, END, 0, 0);
+        looksAt("ADD puts one", 5, 1, TRAP, 0, 0, ADD, 0, 0, END, 0, 0);
+        looksAt("END of an inner one puts", 3, 3, BLOCK, 0, 3, TRAP, 0, 0, END, 0, 0, END, 0, 0);
+        looksAt("in a dead one, too", 3, 2, TRAP, 0, 0, BLOCK, 0, 2, TRAP, 0, 0, END, 0, 0, END, 0, 0);
+        looksAt("a block puts its parameters", 3, 4, TRAP, 0, 0, BLOCK, 4, 0, TRAP, 0, 0, END, 0, 0, END, 0, 0);
+        m.function(0, 0, 0);
+        write("an IF whose ends are dead", PUT, 1, 0, IF, 0, 4, TRAP, 0, 0, ELSE, 0, 0, TRAP, 0, 0, END, 0, 0);
+        states("END puts four", 8, 4, 9, 0);
+        write("gone", RETURN, 0, 0, END, 0, 0);
+        check.same("four", m.look(m.state(5) - 1, 3), 4);
+    }
+
+    /** What a dead end of the function asks for is not asked of the 220 values. */
+    private void deadEndsAskForNothing(int tier) {
+        for (int more = 4; more <= 5; more++) {
+            fresh(tier);
+            m.function(0, 8, 8);
+            write("traps", TRAP, 0, 0, END, 0, 0);
+            m.function(0, 0, 0);
+            for (int i = 0; i < 26; i++) {
+                write("eight more", CALL, 0, 0);
+            }
+            for (int i = 0; i < more; i++) {
+                write("one more", PUT, i, 0);
+            }
+            write("end", TRAP, 0, 0, END, 0, 0);
+            check.same("it asks", m.look(1, 3), 208 + more);
+            callWith(1);
+            check.same("steps", m.run(9), more == 4 ? 2 : 1);
+            states("8 locals are left, or not", 0, more == 4 ? 3 : 4, 1, more == 4 ? 1 : 0);
+        }
     }
 }
