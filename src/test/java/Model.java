@@ -113,7 +113,7 @@ final class Model {
     }
 
     int code(int op, int a, int b) {
-        if (written == null || state(6) >= 1500) {
+        if (written == null || instructions() >= 1500) {
             return -1;
         }
         Function target = written;
@@ -121,7 +121,7 @@ final class Model {
             return -1;
         }
         target.body.add(new Instruction(op, a, b));
-        return state(6);
+        return instructions();
     }
 
     private Label inner() {
@@ -552,7 +552,7 @@ final class Model {
             case 3: return latest == null ? 0 : latest.counted;
             case 4: return steps;
             case 5: return functions.size();
-            case 6: return functions.stream().mapToInt(f -> f.body.size()).sum();
+            case 6: return instructions();
             case 7: return written == null ? 0 : labels.size();
             case 8: return written == null ? 0 : inner().own;
             case 9: return written != null && inner().dead ? 1 : 0;
@@ -560,6 +560,14 @@ final class Model {
             case 11: return (int) functions.stream().filter(f -> f.compiled).count();
             default: return -1;
         }
+    }
+
+    private int instructions() {
+        int sum = 0;
+        for (Function f : functions) {
+            sum += f.body.size();
+        }
+        return sum;
     }
 
     int tier(int n) {

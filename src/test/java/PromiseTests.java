@@ -1,31 +1,5 @@
 /** Each promise by itself: ordinary inputs, the edges that the document names, and wrong inputs. */
-public final class PromiseTests {
-    private static final int TRAP = 0;
-    private static final int NOTHING = 1;
-    private static final int BLOCK = 2;
-    private static final int LOOP = 3;
-    private static final int IF = 4;
-    private static final int ELSE = 5;
-    private static final int ENTRY = 6;
-    private static final int END = 11;
-    private static final int BRANCH = 12;
-    private static final int BRANCH_IF = 13;
-    private static final int TABLE = 14;
-    private static final int RETURN = 15;
-    private static final int CALL = 16;
-    private static final int CALL_ENTRY = 17;
-    private static final int FORGET = 26;
-    private static final int GET = 32;
-    private static final int SET = 33;
-    private static final int TEE = 34;
-    private static final int SET_GLOBAL = 36;
-    private static final int GROW = 64;
-    private static final int PUT = 65;
-    private static final int ADD = 106;
-
-    private final Check check = new Check();
-    private RegisterMachine m = new RegisterMachine();
-
+public final class PromiseTests extends Bench {
     public static void main(String[] args) {
         PromiseTests tests = new PromiseTests();
         tests.newObject();
@@ -63,45 +37,6 @@ public final class PromiseTests {
         tests.looks();
         tests.looksAtDeadLabels();
         tests.check.finish();
-    }
-
-    private void fresh(int tier) {
-        m = new RegisterMachine();
-        m.tier(tier);
-    }
-
-    private int accepted = 0;
-
-    /** Writes instructions of three numbers each; all have to be taken. */
-    private void write(String what, int... numbers) {
-        for (int i = 0; i + 2 < numbers.length; i += 3) {
-            accepted = m.code(numbers[i], numbers[i + 1], numbers[i + 2]);
-            check.same(what + ": instruction " + i / 3 + " is taken", accepted > 0, true);
-        }
-    }
-
-    private void refuse(String what, int op, int a, int b) {
-        int[] before = new int[5];
-        for (int i = 0; i < 5; i++) {
-            before[i] = m.state(5 + i);
-        }
-        check.same(what + " is refused", m.code(op, a, b), -1);
-        for (int i = 0; i < 5; i++) {
-            check.same(what + ", state " + (5 + i), m.state(5 + i), before[i]);
-        }
-    }
-
-    private void states(String what, int... due) {
-        for (int i = 0; i + 1 < due.length; i += 2) {
-            check.same(what + ": state(" + due[i] + ")", m.state(due[i]), due[i + 1]);
-        }
-    }
-
-    private boolean callWith(int function, long... arguments) {
-        for (long v : arguments) {
-            m.argument(v);
-        }
-        return m.call(function);
     }
 
     private void newObject() {
