@@ -119,10 +119,10 @@ public final class BranchingTests extends Bench {
             int entry = branchTo(label, TABLE, 0);
             for (int i = 0; i < CALLS; i++) {
                 int behind = 5 * (5 - label);
-                long result = 77 + 32 - (1 << label);
-                gives("branch to " + label, always, with(), 8 + behind, result);
-                gives("13 to " + label, taken, with(), 9 + behind, result);
-                gives("entry to " + label, entry, with(), 9 + behind, result);
+                long added = 32 - (1 << label);
+                gives("branch to " + label, always, with(), 8 + behind, 100 * BRANCH + added);
+                gives("13 to " + label, taken, with(), 9 + behind, 100 * BRANCH_IF + added);
+                gives("entry to " + label, entry, with(), 9 + behind, 100 * TABLE + added);
             }
         }
     }
@@ -133,7 +133,7 @@ public final class BranchingTests extends Bench {
         for (int i = 0; i < 5; i++) {
             write("block", PUT, 1000 + i, 0, BLOCK, 0, 1);
         }
-        write("operands", PUT, 3, 0, PUT, 77, 0);
+        write("operands", PUT, 3, 0, PUT, 100 * op, 0);
         if (op != BRANCH) {
             write("condition", PUT, condition, 0);
         }
@@ -222,6 +222,12 @@ public final class BranchingTests extends Bench {
             gives("behind the block", f, with(1, 7), 4 + 10 + 1, 90, 7 + 5 + 1);
             gives("the last, the function's label", f, with(2, 7), 4 + 10, 7, 6);
             gives("beyond it", f, with(77, 7), 4 + 10, 7, 6);
+        }
+        fresh(tier);
+        int g = whole("a local and a constant", 2, 3, 0, PUT, 1, 0, BLOCK, 0, 2, PUT, 2, 0, GET, 1, 0, PUT, 3, 0, GET, 0, 0,
+            TABLE, 1, 0, ENTRY, 0, 0, ENTRY, 0, 0, END, 0, 0, END, 0, 0);
+        for (int i = 0; i < CALLS; i++) {
+            gives("a local and a constant", g, with(i, 50 + i), 6, 1, 50 + i, 3);
         }
     }
 

@@ -19,6 +19,7 @@ public final class CallingTests extends Bench {
             tests.valuesOfTwoFrames(tier);
             tests.valuesOfAllFrames(tier);
             tests.valuesAreGivenBack(tier);
+            tests.theLastOf220Values(tier);
             tests.callsThatExhaustAreNotCounted(tier);
             tests.trapsOfEachKind(tier);
             tests.trapsInInnerFrames(tier);
@@ -109,8 +110,8 @@ public final class CallingTests extends Bench {
             write("looks and leaves something", GET, i, 0, PUT_64, -1, -1, SET, i, 0);
         }
         write("end", END, 0, 0);
-        int both = whole("calls both", 0, 8, 0, PUT, 1, 0, PUT, 2, 0, PUT, 3, 0, PUT, 4, 0, PUT, 5, 0, PUT, 6, 0, PUT, 7, 0, PUT, 8, 0,
-            CALL, dirty, 0, CALL, clean, 0, END, 0, 0);
+        int both = whole("calls both", 0, 8, 0, PUT, 1, 0, PUT, 2, 0, PUT, 3, 0, PUT, 4, 0, PUT, 5, 0, PUT, 6, 0, PUT, 7, 0,
+            PUT, 8, 0, CALL, dirty, 0, CALL, clean, 0, END, 0, 0);
         for (int i = 0; i < CALLS; i++) {
             callWith(dirty, 1, 2, 3, 4, 5, 6, 7, 8);
             m.run(2000);
@@ -238,6 +239,24 @@ public final class CallingTests extends Bench {
             BRANCH_IF, 0, 0, END, 0, 0, END, 0, 0);
         for (int i = 0; i < CALLS; i++) {
             gives("one frame behind the other", f, with(35), 35 * 7);
+        }
+    }
+
+    /** All 220 values are in use, and the uppermost of them are carried to a label and out of the function. */
+    private void theLastOf220Values(int tier) {
+        fresh(tier);
+        int f = begin(1, 8, 7);
+        for (int i = 1; i <= 204; i++) {
+            write("operands", PUT, i, 0);
+        }
+        write("a label above them", BLOCK, 0, 4);
+        for (int i = 205; i <= 212; i++) {
+            write("operands", i % 2 == 0 ? PUT : GET, i % 2 == 0 ? i : 0, 0);
+        }
+        write("carry four", BRANCH, 0, 0, END, 0, 0, RETURN, 0, 0, END, 0, 0);
+        check.same("212 operands and 8 locals", m.look(f, 3) + 8, 220);
+        for (int i = 0; i < CALLS; i++) {
+            gives("the last values", f, with(-i), 214, 201, 202, 203, 204, -i, 210, -i, 212);
         }
     }
 

@@ -289,6 +289,7 @@ public final class OutsideTests extends Bench {
         int grow = whole("grow", 1, 2, 0, GET, 0, 0, GROW, 0, 0, PAGES, 0, 0, END, 0, 0);
         int store = whole("store", 2, 0, 0, GET, 0, 0, GET, 1, 0, STORE, 0, 0, END, 0, 0);
         int pages = 1;
+        gives("the first word", store, with(0, 0x44332211), 3);
         for (long more : new long[] {6, 0xFFFFFFFFL, 0x80000000L, -1, 0, 1, 0, 5, 3, 2, 1, 1L << 32, 0}) {
             long asked = more & 0xFFFFFFFFL;
             long answer = pages + asked > 6 ? 4294967295L : pages;
@@ -305,6 +306,9 @@ public final class OutsideTests extends Bench {
             gives("away again", store, with(64L * pages - 4, 0), 3);
         }
         states("six", 10, 6);
+        for (int address = 0; address < 4; address++) {
+            check.same("what was stored stays", m.memory(address), 0x11 * (address + 1));
+        }
     }
 
     /** "false when k is not 0 .. 29, or there is no such whole function". */

@@ -41,8 +41,10 @@ final class Pair {
         compare("entry(" + k + ", " + f + ")", machine.entry(k, f) ? 1 : 0, model.entry(k, f) ? 1 : 0);
     }
 
-    void argument(long v) {
-        compare("argument(" + v + "L)", machine.argument(v), model.argument(v));
+    int argument(long v) {
+        int got = machine.argument(v);
+        compare("argument(" + v + "L)", got, model.argument(v));
+        return got;
     }
 
     boolean call(int f) {
@@ -73,19 +75,29 @@ final class Pair {
         return got;
     }
 
+    void result(int k) {
+        compare("result(" + k + ")", machine.result(k), model.result(k));
+    }
+
+    void global(int k) {
+        compare("global(" + k + ")", machine.global(k), model.global(k));
+    }
+
+    void memory(int address) {
+        compare("memory(" + address + ")", machine.memory(address), model.memory(address));
+    }
+
     void lookAll() {
         for (int what = -1; what <= 12; what++) {
             state(what);
         }
         for (int k = -1; k <= 8; k++) {
-            compare("result(" + k + ")", machine.result(k), model.result(k));
-            compare("global(" + k + ")", machine.global(k), model.global(k));
+            result(k);
+            global(k);
         }
         for (int address = -1; address <= 385; address++) {
-            int due = model.memory(address);
-            int got = machine.memory(address);
-            if (got != due) {
-                compare("memory(" + address + ")", got, due);
+            if (machine.memory(address) != model.memory(address)) {
+                memory(address);
             }
         }
     }

@@ -18,7 +18,7 @@ public final class TwinTests {
     }
 
     public static void main(String[] args) {
-        int seeds = args.length > 0 ? Integer.parseInt(args[0]) : 6000;
+        int seeds = args.length > 0 ? Integer.parseInt(args[0]) : 20000;
         Check check = new Check();
         for (int seed = 0; seed < seeds && check.wrong() == 0; seed++) {
             new TwinTests(seed, check).play();
@@ -48,7 +48,8 @@ public final class TwinTests {
     }
 
     private void writeFunction() {
-        int number = pair.function(random.nextInt(4), random.nextInt(4), random.nextInt(3));
+        int most = random.nextInt(6) == 0 ? 9 : 4;
+        int number = pair.function(random.nextInt(most), random.nextInt(most), random.nextInt(3));
         if (number < 0) {
             return;
         }

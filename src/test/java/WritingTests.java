@@ -19,6 +19,7 @@ public final class WritingTests extends Bench {
         tests.oneIsWrittenAtATime();
         tests.fortyFunctions();
         tests.fifteenHundredInstructions();
+        tests.longestCodeForRegisters();
         tests.placesOfLocals();
         tests.labelOfTheFunction();
         tests.exchanges();
@@ -140,6 +141,33 @@ public final class WritingTests extends Bench {
         gives("the first", 0, with(), 1);
         check.same("a function has room", m.function(0, 0, 0), 2);
         refuse("an instruction has none", END, 0, 0);
+        fresh(1);
+        begin(0, 0, 0);
+        for (int i = 1; i <= 1500; i++) {
+            check.same("label", m.code(BLOCK, 0, 0), i);
+        }
+        states("as many labels as instructions, and the function's", 7, 1501);
+        refuse("there are 1500", END, 0, 0);
+    }
+
+    /** As the sentence above, for the function whose code for registers is the longest. */
+    private void longestCodeForRegisters() {
+        fresh(1);
+        int eight = begin(0, 8, 0);
+        operands(8);
+        write("end", END, 0, 0);
+        int f = begin(0, 1, 0);
+        operands(1);
+        for (int i = 0; i < 165; i++) {
+            write("eight conditions", CALL, eight, 0);
+            write("each on its own", 7, BRANCH_IF);
+            write("none is left", FORGET, 0, 0);
+        }
+        write("end", END, 0, 0);
+        check.same("all are done", callWith(f), true);
+        check.same("in part", m.run(2000), 2000);
+        check.same("the rest", m.run(2000), 1 + 165 * 17 - 2000);
+        states("ended", 0, 2, 11, 2);
     }
 
     /** "locals are the parameters and then these". */
