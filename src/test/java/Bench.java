@@ -21,6 +21,7 @@ abstract class Bench {
     static final int TEE = 34;
     static final int GET_GLOBAL = 35;
     static final int SET_GLOBAL = 36;
+    static final int LOAD = 40;
     static final int LOAD_BYTE = 45;
     static final int STORE = 54;
     static final int STORE_BYTE = 58;

@@ -15,6 +15,7 @@ public final class CallingTests extends Bench {
             tests.localsAreZeroAtFirst(tier);
             tests.thirtyFrames(tier);
             tests.thirtyFramesByTheTable(tier);
+            tests.wrongEntriesInTheLastFrame(tier);
             tests.valuesOfOneFrame(tier);
             tests.valuesOfTwoFrames(tier);
             tests.valuesOfAllFrames(tier);
@@ -150,6 +151,27 @@ public final class CallingTests extends Bench {
             callWith(f, 30);
             check.same("steps", m.run(2000), 30 * 7);
             states("exhausted", 0, 4, 2, 0, 4, 210);
+        }
+    }
+
+    /** What TRAPS is no call, so it does not EXHAUST where a call would. */
+    private void wrongEntriesInTheLastFrame(int tier) {
+        fresh(tier);
+        int shape = whole("another shape", 0, 1, 0, PUT, 1, 0, END, 0, 0);
+        int right = whole("the right shape", 0, 0, 0, NOTHING, 0, 0, END, 0, 0);
+        m.entry(1, shape);
+        m.entry(2, right);
+        int f = whole("so deep, then by the table", 2, 0, 0, GET, 0, 0, IF, 0, 0, GET, 0, 0, PUT, 1, 0, SUBTRACT, 0, 0, GET, 1, 0,
+            CALL, right + 1, 0, ELSE, 0, 0, GET, 1, 0, CALL_ENTRY, 0, 0, END, 0, 0, END, 0, 0);
+        for (int i = 0; i < CALLS; i++) {
+            int steps = 29 * 7 + 4;
+            traps("no such entry", f, with(29, 30), steps, 6);
+            traps("an empty entry", f, with(29, 0), steps, 7);
+            traps("another shape", f, with(29, 1), steps, 8);
+            callWith(f, 29, 2);
+            check.same("a call", m.run(2000), steps);
+            states("exhausted", 0, 4, 2, 0, 4, steps);
+            gives("a frame is left", f, with(28, 2), 28 * 7 + 5);
         }
     }
 

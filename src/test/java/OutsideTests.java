@@ -288,6 +288,7 @@ public final class OutsideTests extends Bench {
         fresh(tier);
         int grow = whole("grow", 1, 2, 0, GET, 0, 0, GROW, 0, 0, PAGES, 0, 0, END, 0, 0);
         int store = whole("store", 2, 0, 0, GET, 0, 0, GET, 1, 0, STORE, 0, 0, END, 0, 0);
+        int load = whole("load", 1, 1, 0, GET, 0, 0, LOAD, 0, 0, END, 0, 0);
         int pages = 1;
         gives("the first word", store, with(0, 0x44332211), 3);
         for (long more : new long[] {6, 0xFFFFFFFFL, 0x80000000L, -1, 0, 1, 0, 5, 3, 2, 1, 1L << 32, 0}) {
@@ -303,6 +304,8 @@ public final class OutsideTests extends Bench {
             gives("the last word", store, with(64L * pages - 4, 0x04030201), 3);
             check.same("the lowest byte first", m.memory(64 * pages - 4), 1);
             check.same("the highest last", m.memory(64 * pages - 1), 4);
+            gives("the last word", load, with(64L * pages - 4), 2, 0x04030201);
+            traps("a byte beyond", load, with(64L * pages - 3), 2, 4);
             gives("away again", store, with(64L * pages - 4, 0), 3);
         }
         states("six", 10, 6);
