@@ -20,6 +20,7 @@ public final class BranchingTests extends Bench {
             tests.tablesCarryOperands(tier);
             tests.returnsFromInside(tier);
             tests.deadCodeIsNeverDone(tier);
+            tests.deadCodeWithoutOperands(tier);
             tests.stepsAheadOfALoop(tier);
             tests.stepsAheadOfAnEnd(tier);
             tests.localsThatArePutKeepTheirValue(tier);
@@ -259,6 +260,33 @@ public final class BranchingTests extends Bench {
             for (int i = 0; i < CALLS; i++) {
                 gives("dead code", f, with(), steps, 4);
                 check.same("nothing of it was done", m.global(0), 0);
+            }
+        }
+    }
+
+    /** "In a DEAD label there are as many operands as are asked for": so it is whole, runs, and is compiled. */
+    private void deadCodeWithoutOperands(int tier) {
+        int[][] ways = {{TRAP, 0, 0}, {BRANCH, 0, 0}, {BRANCH, 1, 0}, {PUT, 0, 0, TABLE, 0, 0, ENTRY, 0, 0}, {RETURN, 0, 0}};
+        for (int[] way : ways) {
+            fresh(tier);
+            int eight = begin(8, 8, 0);
+            write("eight", TRAP, 0, 0, CALL, eight, 0, END, 0, 0);
+            int f = begin(1, 1, 0);
+            write("block", GET, 0, 0, BLOCK, 1, 1);
+            write("never goes on", way);
+            write("calls", CALL, eight, 0, CALL, eight, 0, FORGET, 0, 0, CALL_ENTRY, 8, 0, CALL_ENTRY, 8, 8, RETURN, 0, 0);
+            write("takes", SELECT, 0, 0, STORE, 0, 0, SET, 0, 0, TEE, 0, 0, STORE, 0, 0, SET_GLOBAL, 0, 0, BRANCH_IF, 1, 0);
+            write("labels", BLOCK, 4, 4, END, 0, 0, CALL, eight, 0, LOOP, 4, 0, BRANCH, 0, 0, SELECT, 0, 0, FORGET, 0, 0, END, 0, 0,
+                TABLE, 1, 0, ENTRY, 0, 0, ENTRY, 1, 0, IF, 4, 4, BRANCH, 0, 0, ELSE, 0, 0, END, 0, 0, BRANCH, 0, 0);
+            write("ends", END, 0, 0, END, 0, 0);
+            for (int i = 0; i < CALLS; i++) {
+                int steps = way.length == 9 ? 3 : 2;
+                if (way[0] == TRAP) {
+                    traps("ahead of dead code", f, with(i), steps, 1);
+                } else {
+                    gives("ahead of dead code", f, with(i), steps, i);
+                }
+                traps("only a trap", eight, with(1, 2, 3, 4, 5, 6, 7, 8), 1, 1);
             }
         }
     }
