@@ -23,7 +23,12 @@ public final class RegisterMachine {
 
     // One instruction gives at most two for registers: a branch on a condition is a test and a branch,
     // and what puts a local or a constant is at most one move, when its slot is needed.
-    private static final int MOST_REGISTER_INSTRUCTIONS = 2 * MOST_INSTRUCTIONS;
+    private static final int MOST_FOR_ONE = 2;
+    private static final int MOST_REGISTER_INSTRUCTIONS = MOST_FOR_ONE * MOST_INSTRUCTIONS;
+    private static final int MOST_LABELS = MOST_INSTRUCTIONS + 1;
+
+    // Most programs are short, so rows for instructions begin short and get longer by doubling.
+    private static final int FIRST_ROOM = 32;
 
     // What is done between two steps only goes forward in each frame, so this is far more than any needs.
     private static final int MOST_BETWEEN_STEPS = 1000000;
@@ -247,18 +252,32 @@ public final class RegisterMachine {
         final int[] first = new int[MOST_FUNCTIONS];
         final int[] last = new int[MOST_FUNCTIONS];
         final int[] counted = new int[MOST_FUNCTIONS];
-        final int[] operation = new int[MOST_INSTRUCTIONS];
-        final int[] a = new int[MOST_INSTRUCTIONS];
-        final int[] b = new int[MOST_INSTRUCTIONS];
+        int[] operation = new int[FIRST_ROOM];
+        int[] a = new int[FIRST_ROOM];
+        int[] b = new int[FIRST_ROOM];
         // Of what begins a label and of ELSE: its END. Of END and of a branch: what began the label,
         // NONE for the function's own.
-        final int[] link = new int[MOST_INSTRUCTIONS];
+        int[] link = new int[FIRST_ROOM];
         // Of IF: its ELSE, or NONE. Of ELSE: its IF.
-        final int[] other = new int[MOST_INSTRUCTIONS];
-        final int[] height = new int[MOST_INSTRUCTIONS];
+        int[] other = new int[FIRST_ROOM];
+        int[] height = new int[FIRST_ROOM];
         int functions = 0;
         int written = NONE;
         int size = 0;
+
+        /** Whether there is a place for one instruction more. */
+        boolean makeRoom() {
+            if (size >= operation.length && size < MOST_INSTRUCTIONS) {
+                int length = Math.min(2 * operation.length, MOST_INSTRUCTIONS);
+                operation = Arrays.copyOf(operation, length);
+                a = Arrays.copyOf(a, length);
+                b = Arrays.copyOf(b, length);
+                link = Arrays.copyOf(link, length);
+                other = Arrays.copyOf(other, length);
+                height = Arrays.copyOf(height, length);
+            }
+            return size < operation.length;
+        }
 
         boolean isWhole(int function) {
             return function >= 0 && function < functions && function != written;
@@ -292,8 +311,8 @@ public final class RegisterMachine {
     /** Takes a function's instructions one by one and refuses what has not its operands. */
     private static final class Writer {
         private final Program program;
-        private final int[] begins = new int[MOST_INSTRUCTIONS + 1];
-        private final boolean[] dead = new boolean[MOST_INSTRUCTIONS + 1];
+        private int[] begins = new int[FIRST_ROOM];
+        private boolean[] dead = new boolean[FIRST_ROOM];
         int labels = 0;
         private int operands = 0;
         private int entriesLeft = 0;
@@ -337,7 +356,7 @@ public final class RegisterMachine {
 
         int write(int operation, int a, int b) {
             int at = program.size;
-            if (program.written == NONE || at >= MOST_INSTRUCTIONS || !admits(operation, a, b)) {
+            if (program.written == NONE || !program.makeRoom() || !admits(operation, a, b)) {
                 return -1;
             }
             program.operation[at] = operation;
@@ -386,7 +405,7 @@ public final class RegisterMachine {
 
         private boolean admitsBegin(int parameters, int results, int more) {
             if (!isWithin(parameters, MOST_IN_LABEL) || !isWithin(results, MOST_IN_LABEL)
-                    || !has(parameters + more) || labels >= begins.length) {
+                    || !has(parameters + more) || !makeRoom()) {
                 return false;
             }
             int at = program.size;
@@ -399,6 +418,21 @@ public final class RegisterMachine {
             labels++;
             put(parameters);
             return true;
+        }
+
+        /** Whether there is a place for one label more. */
+        private boolean makeRoom() {
+            int length = begins.length;
+            if (labels >= length && labels < MOST_LABELS) {
+                int longer = Math.min(2 * length, MOST_LABELS);
+                boolean[] shorter = dead;
+                begins = Arrays.copyOf(begins, longer);
+                dead = new boolean[longer];
+                for (int i = 0; i < length; i++) {
+                    dead[i] = shorter[i];
+                }
+            }
+            return labels < begins.length;
         }
 
         private boolean admitsElse() {
@@ -1011,18 +1045,32 @@ public final class RegisterMachine {
      */
     private static final class RegisterCode {
         final int[] start = new int[MOST_FUNCTIONS];
-        final int[] operation = new int[MOST_REGISTER_INSTRUCTIONS];
+        int[] operation = new int[MOST_FOR_ONE * FIRST_ROOM];
         // How many steps of the written code it stands for; 0: it is done with what is ahead of it.
-        final int[] weight = new int[MOST_REGISTER_INSTRUCTIONS];
-        final int[] to = new int[MOST_REGISTER_INSTRUCTIONS];
-        final int[] x = new int[MOST_REGISTER_INSTRUCTIONS];
-        final int[] y = new int[MOST_REGISTER_INSTRUCTIONS];
-        final int[] z = new int[MOST_REGISTER_INSTRUCTIONS];
+        int[] weight = new int[MOST_FOR_ONE * FIRST_ROOM];
+        int[] to = new int[MOST_FOR_ONE * FIRST_ROOM];
+        int[] x = new int[MOST_FOR_ONE * FIRST_ROOM];
+        int[] y = new int[MOST_FOR_ONE * FIRST_ROOM];
+        int[] z = new int[MOST_FOR_ONE * FIRST_ROOM];
         int size = 0;
         int functions = 0;
 
         RegisterCode() {
             Arrays.fill(start, NONE);
+        }
+
+        /** Room for all that so many written instructions may give. */
+        void makeRoom(int instructions) {
+            int needed = size + MOST_FOR_ONE * instructions;
+            if (needed > operation.length) {
+                int length = Math.min(Math.max(needed, 2 * operation.length), MOST_REGISTER_INSTRUCTIONS);
+                operation = Arrays.copyOf(operation, length);
+                weight = Arrays.copyOf(weight, length);
+                to = Arrays.copyOf(to, length);
+                x = Arrays.copyOf(x, length);
+                y = Arrays.copyOf(y, length);
+                z = Arrays.copyOf(z, length);
+            }
         }
     }
 
@@ -1036,7 +1084,7 @@ public final class RegisterMachine {
         // Where each operand is: a local, its own slot, or (below 0) a constant.
         private final int[] where = new int[MOST_VALUES];
         // Behind which LOOP, ELSE or END which instruction for registers comes.
-        private final int[] places = new int[MOST_INSTRUCTIONS];
+        private int[] places = new int[FIRST_ROOM];
         private int function = 0;
         private int slots = 0;
         private int operands = 0;
@@ -1057,6 +1105,7 @@ public final class RegisterMachine {
             pending = 0;
             isLive = true;
             deadLabels = 0;
+            makeRoom();
             for (int at = program.first[compiled]; at <= program.last[compiled]; at++) {
                 translate(at);
             }
@@ -1067,6 +1116,13 @@ public final class RegisterMachine {
             }
             code.start[compiled] = start;
             code.functions++;
+        }
+
+        private void makeRoom() {
+            code.makeRoom(program.last[function] - program.first[function] + 1);
+            if (places.length < program.operation.length) {
+                places = new int[program.operation.length];
+            }
         }
 
         private void translate(int at) {
@@ -1313,7 +1369,7 @@ public final class RegisterMachine {
 
         private void emit(int operation, int to, int x, int y, int z) {
             int at = code.size;
-            if (at >= MOST_REGISTER_INSTRUCTIONS) {
+            if (at >= code.operation.length) {
                 return;
             }
             code.operation[at] = operation;

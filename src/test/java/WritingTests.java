@@ -35,6 +35,7 @@ public final class WritingTests extends Bench {
         tests.ifWithoutElse();
         tests.endOfTheFunction();
         tests.labelsFromTheInside();
+        tests.manyLabelsInLabels();
         tests.wantsOfLabels();
         tests.branchIfPutsAgain();
         tests.returns();
@@ -547,6 +548,27 @@ public final class WritingTests extends Bench {
                 refuse("no such label, dead or not", op, depth + 1, 0);
             }
         }
+    }
+
+    /** "A LABEL has PARAMETERS, RESULTS, a HEIGHT .. and is OPEN or .. DEAD": each by itself, however many are in it. */
+    private void manyLabelsInLabels() {
+        int depth = 80;
+        fresh(1);
+        begin(0, 0, 0);
+        for (int i = 0; i < depth; i++) {
+            write("a label of a kind", i % 3 == 0 ? TRAP : NOTHING, 0, 0, i % 2 == 0 ? BLOCK : LOOP, 0, i % 5);
+            operands(i % 4);
+        }
+        for (int i = depth - 1; i >= 0; i--) {
+            boolean isDead = (i + 1) % 3 == 0 && i + 1 < depth;
+            int inside = i + 1 < depth ? (i + 1) % 5 : 0;
+            states("label " + i, 7, i + 2, 8, (isDead ? 0 : i % 4) + inside, 9, isDead ? 1 : 0);
+            refuse("there are so many labels", BRANCH, i + 2, 0);
+            write("only its results are left", TRAP, 0, 0, END, 0, 0);
+        }
+        states("the function's label", 7, 1, 8, 0, 9, 1);
+        write("the end", END, 0, 0);
+        traps("the first instruction", 0, with(), 1, 1);
     }
 
     /** "A branch to a label WANTS its results, of a label of a LOOP its parameters." */
